@@ -461,7 +461,7 @@ public final class LogicalPairs {
             }
             size = 0;
             add(first);
-            for (int place = 0; place < size; place++) {
+            for (int place = 0; place < size && place < MOST_SEGMENTS; place++) {
                 addThoseTakenBy(going[place]);
             }
         }

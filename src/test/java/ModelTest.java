@@ -320,9 +320,10 @@ public final class ModelTest {
         want = due;
     }
 
-    private void build() {
+    /** The opening makes kinds and logical parents alone: those come too late once there are segments. */
+    private void build(boolean opening) {
         int a = someKind();
-        switch (random.nextInt(10)) {
+        switch (random.nextInt(opening ? 4 : 10)) {
             case 0, 1 -> put("kind " + a, x.kind(a), model.kind(a));
             case 2, 3 -> {
                 int b = someKind();
@@ -342,19 +343,26 @@ public final class ModelTest {
         }
     }
 
+    private int relatable() {
+        List<Seg> fit = model.segs.stream()
+            .filter(s -> s.there && s.related == null && model.kindAt(s.kind).logical != 0).toList();
+        return fit.isEmpty() || random.nextInt(4) == 0 ? someSegment() : fit.get(random.nextInt(fit.size())).number;
+    }
+
     private void change() {
         int a = someSegment();
         switch (random.nextInt(8)) {
-            case 0, 1 -> put("delete " + a, x.delete(a), model.delete(a));
-            case 2 -> {
+            case 0 -> put("delete " + a, x.delete(a), model.delete(a));
+            case 1, 2 -> {
                 int b = upTo(2);
                 int c = upTo(4);
                 put("poke " + a + " " + b + " " + c, x.poke(a, b, c), model.poke(a, b, c));
             }
             default -> {
-                Seg s = model.segAt(a);
-                int b = s == null ? someSegment() : fitting(model.kindAt(s.kind).logical);
-                put("relate " + a + " " + b, x.relate(a, b), model.relate(a, b));
+                int from = relatable();
+                Seg s = model.segAt(from);
+                int to = s == null ? someSegment() : fitting(model.kindAt(s.kind).logical);
+                put("relate " + from + " " + to, x.relate(from, to), model.relate(from, to));
             }
         }
     }
@@ -385,7 +393,7 @@ public final class ModelTest {
         for (int n = 0; n < CALLS; n++) {
             int part = random.nextInt(10);
             if (n < 20 || part < 4) {
-                build();
+                build(n < 14);
             } else if (part < 7) {
                 change();
             } else {

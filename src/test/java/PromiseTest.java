@@ -27,6 +27,7 @@ public final class PromiseTest {
         deleteByRules();
         deleteGathersFirst();
         deleteAndStay();
+        fullObject();
         there();
         childPhysical();
         childLogical();
@@ -369,6 +370,59 @@ public final class PromiseTest {
         due("the lowest one stays", tree.there(3, 1), true);
         due("the middle one does not", tree.there(2, 1), false);
         due("it is no one's child", tree.poke(3, 0, 0), 0);
+    }
+
+    /** All 15 kinds and 250 segments: each row is used to its last place. */
+    private static void fullObject() {
+        promise = 6;
+        LogicalPairs x = new LogicalPairs();
+        for (int kind = 1; kind <= 15; kind++) {
+            x.kind(0);
+        }
+        due("parent of the last kind", x.parent(15, 15, 2), 1);
+        due("parent of the one before it", x.parent(14, 15, 0), 1);
+        x.index(15, false);
+        for (int number = 1; number <= 249; number++) {
+            x.segment(15, 0, number);
+        }
+        due("the last segment", x.segment(14, 0, 1), 250);
+        for (int number = 31; number <= 250; number++) {
+            x.relate(number, number - 1);
+        }
+        due("last entry", x.entry(1, 248), 249);
+        due("behind the last entry", x.entry(1, 249), 0);
+        due("last logical child", x.child(249, 1, 0), 250);
+        due("behind the last logical child", x.child(249, 1, 1), 0);
+        due("no child", x.child(249, 0, 0), 0);
+        due("barred by the last one", x.delete(30), -5);
+        due("all are there", x.told(2), 250);
+        due("the last one", x.delete(250), 1);
+        due("all that are related, one by the other", x.delete(30), 220);
+        due("the others", x.told(2), 29);
+        due("no relations", x.told(4), 0);
+
+        LogicalPairs all = new LogicalPairs();
+        all.kind(0);
+        all.kind(1);
+        all.segment(1, 0, 0);
+        for (int number = 2; number <= 250; number++) {
+            all.segment(2, 1, number);
+        }
+        due("last child", all.child(1, 0, 248), 250);
+        due("behind the last child", all.child(1, 0, 249), 0);
+        due("all 250", all.delete(1), 250);
+
+        LogicalPairs again = withRules();
+        for (int number = 1; number <= 248; number++) {
+            again.segment(1, 0, number);
+        }
+        again.segment(2, 0, 1);
+        again.segment(4, 0, 1);
+        again.relate(249, 1);
+        again.relate(250, 1);
+        due("barred, though the last one would go", again.delete(1), -5);
+        again.delete(249);
+        due("a barred delete leaves no mark on the last one", again.delete(1), 2);
     }
 
     private static void there() {
