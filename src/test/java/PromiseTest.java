@@ -1,14 +1,30 @@
-/** For each promise of the document: ordinary inputs, the edges that it names, and wrong inputs. */
+/**
+ * The document's promises 1 to 15: each sentence, or part of one, that names an answer or a boundary
+ * case has a test of its own, told by the promise's number and the document's words.
+ */
 public final class PromiseTest {
+    private static final int NONE = LogicalPairs.NONE;
     private static final int LOW = Integer.MIN_VALUE;
     private static final int HIGH = Integer.MAX_VALUE;
     private static int wrong = 0;
-    private static int promise = 0;
+    private static int tests = 0;
+    private static String words = "";
+
+    private static void holds(int promise, String sentence, Runnable test) {
+        words = "promise " + promise + ", \"" + sentence + "\"";
+        tests++;
+        try {
+            test.run();
+        } catch (RuntimeException thrown) {
+            wrong++;
+            System.out.println(words + ": threw " + thrown);
+        }
+    }
 
     private static void due(String what, long got, long want) {
         if (got != want) {
             wrong++;
-            System.out.println("promise " + promise + ": " + what + ": answered " + got + ", due is " + want);
+            System.out.println(words + ": " + what + ": answered " + got + ", due is " + want);
         }
     }
 
@@ -17,517 +33,786 @@ public final class PromiseTest {
     }
 
     public static void main(String[] args) {
-        newObject();
-        kind();
-        parent();
-        segment();
-        segmentLimit();
-        relate();
-        delete();
-        deleteByRules();
-        deleteGathersFirst();
-        deleteAndStay();
-        fullObject();
-        there();
-        childPhysical();
-        childLogical();
-        count();
-        index();
-        entry();
-        poke();
-        check();
-        pointersSetRight();
-        broken();
-        told();
-        System.out.println(wrong == 0 ? "all answers are as due" : wrong + " answers are not as due");
+        promisesOfKinds();
+        promisesOfSegments();
+        promisesOfAsking();
+        promisesOfPointers();
+        System.out.println(wrong == 0 ? tests + " tests: all answers are as due" : wrong + " answers are not as due");
         if (wrong != 0) {
             System.exit(1);
         }
     }
 
-    private static void newObject() {
-        promise = 1;
+    private static void promisesOfKinds() {
+        holds(1, "No kinds, no segments.", PromiseTest::newObject);
+        holds(1, "No kinds, no segments. (of another object either)", PromiseTest::objectsApart);
+        holds(2, "A new kind below another one: its number", PromiseTest::kindNumber);
+        holds(2, "(0: none)", PromiseTest::kindBelowNone);
+        holds(2, "-2 no such kind", PromiseTest::kindNoSuch);
+        holds(2, "NONE when there are 15", PromiseTest::kindNone);
+        holds(2, "-2 .. NONE", PromiseTest::kindOrder);
+        holds(3, "A kind gets a logical parent kind, with a rule: 1", PromiseTest::parentGiven);
+        holds(3, "0 it has one", PromiseTest::parentHasOne);
+        holds(3, "-2", PromiseTest::parentNoSuch);
+        holds(3, "-4 rule is not so", PromiseTest::parentRule);
+        holds(3, "-5 there were segments of the kind", PromiseTest::parentTooLate);
+        holds(3, "the first of -2, -4, -5, 0", PromiseTest::parentOrder);
+        holds(3, "(A kind may be its own.)", PromiseTest::parentItsOwn);
+        holds(10, "A new index: its number, from 1 on", PromiseTest::indexNumber);
+        holds(10, "-2", PromiseTest::indexNoSuch);
+        holds(10, "NONE", PromiseTest::indexNone);
+        holds(10, "-2; NONE", PromiseTest::indexOrder);
+    }
+
+    private static void promisesOfSegments() {
+        holds(4, "A new segment: its number", PromiseTest::segmentNumber);
+        holds(4, "-2 no such kind", PromiseTest::segmentNoSuch);
+        holds(4, "-4 under is not a segment ..", PromiseTest::segmentUnderNoSegment);
+        holds(4, "-4 .. that is there", PromiseTest::segmentUnderDeleted);
+        holds(4, "-4 .. of the kind above", PromiseTest::segmentUnderOtherKind);
+        holds(4, "(0 for a kind below none)", PromiseTest::segmentUnderNone);
+        holds(4, "-3 its key is there", PromiseTest::segmentKeyThere);
+        holds(4, "NONE when there were 250", PromiseTest::segmentNone);
+        holds(4, "-2 .. -4 .. -3 .. NONE", PromiseTest::segmentOrder);
+        holds(5, "A segment that is there is related to another one: 1", PromiseTest::relateOrdinary);
+        holds(5, "-2 no such segments", PromiseTest::relateNoSuch);
+        holds(5, "-4 the other one isn't of the logical parent kind", PromiseTest::relateOtherKind);
+        holds(5, "-4 .. or is the same one", PromiseTest::relateSame);
+        holds(5, "-5 one of them isn't there", PromiseTest::relateNotThere);
+        holds(5, "(the other one: nor stays)", PromiseTest::relateToStaying);
+        holds(5, "-5 .. or it is related already", PromiseTest::relateAlready);
+        holds(5, "-2 .. -4 .. -5", PromiseTest::relateOrder);
+        holds(6, "A segment is deleted: how many went", PromiseTest::deleteHowManyWent);
+        holds(6, "how many .. stay from then on", PromiseTest::deleteHowManyStay);
+        holds(6, "-2", PromiseTest::deleteNoSuch);
+        holds(6, "-5 it isn't there", PromiseTest::deleteNotThere);
+        holds(6, "-5 .. or is barred", PromiseTest::deleteBarred);
+        holds(6, "-5 .. or is barred (leaves no mark)", PromiseTest::deleteAfterBarred);
+    }
+
+    private static void promisesOfAsking() {
+        holds(7, "Whether a segment is there (side 0)", PromiseTest::thereSideZero);
+        holds(7, "or stays (side 1)", PromiseTest::thereSideOne);
+        holds(7, "side (neither 0 nor 1)", PromiseTest::thereOtherSides);
+        holds(7, "a segment (no such)", PromiseTest::thereNoSuch);
+        holds(8, "The i-th child, from 0 on", PromiseTest::childFromZero);
+        holds(8, "side 0: that are there under it", PromiseTest::childUnder);
+        holds(8, "side 0: .. by kinds, then keys", PromiseTest::childUnderOrder);
+        holds(8, "side 1: that are related to it", PromiseTest::childRelated);
+        holds(8, "side 1: .. by keys, then numbers", PromiseTest::childRelatedOrder);
+        holds(8, "0 when there is none", PromiseTest::childNone);
+        holds(8, "0 when there is none (no such segment or side)", PromiseTest::childNoSuch);
+        holds(9, "A segment's count", PromiseTest::countOrdinary);
+        holds(9, "-2", PromiseTest::countNoSuch);
+        holds(11, "The i-th segment of an index, from 0 on", PromiseTest::entryFromZero);
+        holds(11, "0 when there is none", PromiseTest::entryNone);
+        holds(11, "0 when there is none (no such index)", PromiseTest::entryNoSuch);
+        holds(15, "0 kinds", PromiseTest::toldKinds);
+        holds(15, "1 segments ever made", PromiseTest::toldMade);
+        holds(15, "2 that are there", PromiseTest::toldThere);
+        holds(15, "3 that stay", PromiseTest::toldStay);
+        holds(15, "4 relations", PromiseTest::toldRelations);
+        holds(15, "5 indexes", PromiseTest::toldIndexes);
+        holds(15, "NONE for others", PromiseTest::toldOthers);
+    }
+
+    private static void promisesOfPointers() {
+        holds(12, "A pointer .. says to from now on: what it said", PromiseTest::pokeOrdinary);
+        holds(12, "of a segment that is there, or stays", PromiseTest::pokeStaying);
+        holds(12, "-2", PromiseTest::pokeNoSuch);
+        holds(12, "-4 pointer is not so", PromiseTest::pokePointer);
+        holds(12, "-5 the segment is gone", PromiseTest::pokeGone);
+        holds(12, "-2; -4 ..; -5", PromiseTest::pokeOrder);
+        holds(13, "How many pointers .. don't say what is true", PromiseTest::checkHowMany);
+        holds(13, "of segments that are there or stay", PromiseTest::checkThereOrStay);
+        holds(14, "The segment of the i-th such pointer", PromiseTest::brokenFromZero);
+        holds(14, "by segments, then pointers", PromiseTest::brokenOrder);
+        holds(14, "0 when there is none", PromiseTest::brokenNone);
+    }
+
+    /** An object with the kinds 1 and on, each below the one that is told at its place (0: none). */
+    private static LogicalPairs kinds(int... above) {
         LogicalPairs x = new LogicalPairs();
-        for (int what = 0; what <= 5; what++) {
-            due("told(" + what + ") of a new object", x.told(what), 0);
+        for (int each : above) {
+            x.kind(each);
         }
-        due("check", x.check(), 0);
-        due("broken", x.broken(0), 0);
-        due("segment of no kind", x.segment(1, 0, 1), -2);
-        x.kind(0);
-        x.segment(1, 0, 1);
-        due("a second object has nothing of the first", new LogicalPairs().told(1), 0);
-        due("NONE", LogicalPairs.NONE, -1);
-    }
-
-    private static void kind() {
-        promise = 2;
-        LogicalPairs x = new LogicalPairs();
-        due("below itself to be", x.kind(1), -2);
-        due("first", x.kind(0), 1);
-        due("below the first", x.kind(1), 2);
-        due("below the second", x.kind(2), 3);
-        due("below the next", x.kind(4), -2);
-        due("below -1", x.kind(-1), -2);
-        due("lowest", x.kind(LOW), -2);
-        due("highest", x.kind(HIGH), -2);
-        due("refused ones make no kind", x.told(0), 3);
-        for (int number = 4; number <= 15; number++) {
-            due("kind " + number, x.kind(number - 1), number);
-        }
-        due("sixteenth", x.kind(0), LogicalPairs.NONE);
-        due("sixteenth below the last", x.kind(15), LogicalPairs.NONE);
-        due("no such kind comes before NONE", x.kind(16), -2);
-        due("kinds", x.told(0), 15);
-    }
-
-    private static void parent() {
-        promise = 3;
-        LogicalPairs x = new LogicalPairs();
-        x.kind(0);
-        x.kind(0);
-        x.kind(0);
-        due("kind 0", x.parent(0, 1, 0), -2);
-        due("kind 4", x.parent(4, 1, 0), -2);
-        due("other 0", x.parent(1, 0, 0), -2);
-        due("other 4", x.parent(1, 4, 0), -2);
-        due("lowest", x.parent(LOW, LOW, 0), -2);
-        due("highest", x.parent(HIGH, HIGH, 0), -2);
-        due("-2 before -4", x.parent(4, 1, 3), -2);
-        due("rule 3", x.parent(1, 2, 3), -4);
-        due("rule -1", x.parent(1, 2, -1), -4);
-        due("rule 2", x.parent(1, 2, 2), 1);
-        due("again", x.parent(1, 3, 1), 0);
-        due("-4 before 0", x.parent(1, 3, 3), -4);
-        due("its own", x.parent(2, 2, 1), 1);
-        x.segment(1, 0, 1);
-        due("-5 before 0", x.parent(1, 2, 2), -5);
-        due("-4 before -5", x.parent(1, 2, 9), -4);
-        due("-2 before -5", x.parent(1, 9, 2), -2);
-        x.segment(3, 0, 1);
-        x.delete(2);
-        due("there were segments, though gone", x.parent(3, 1, 0), -5);
-        due("a refused one is not kept", x.relate(2, 1), -4);
-    }
-
-    private static void segment() {
-        promise = 4;
-        LogicalPairs x = new LogicalPairs();
-        x.kind(0);
-        x.kind(1);
-        x.kind(1);
-        x.kind(0);
-        due("kind 0", x.segment(0, 0, 1), -2);
-        due("kind 5", x.segment(5, 0, 1), -2);
-        due("lowest kind", x.segment(LOW, LOW, 1), -2);
-        due("root", x.segment(1, 0, 7), 1);
-        due("root under one", x.segment(4, 1, 7), -4);
-        due("child under none", x.segment(2, 0, 7), -4);
-        due("child under -1", x.segment(2, -1, 7), -4);
-        due("child under highest", x.segment(2, HIGH, 7), -4);
-        due("child under lowest", x.segment(2, LOW, 7), -4);
-        due("child under the next", x.segment(2, 2, 7), -4);
-        due("child", x.segment(2, 1, 7), 2);
-        due("under one of another kind", x.segment(3, 2, 7), -4);
-        due("same key, other kind", x.segment(3, 1, 7), 3);
-        due("same key and kind", x.segment(2, 1, 7), -3);
-        due("same root key", x.segment(1, 0, 7), -3);
-        due("same key, other root kind", x.segment(4, 0, 7), 4);
-        due("another root", x.segment(1, 0, Long.MIN_VALUE), 5);
-        due("same key under another", x.segment(2, 5, 7), 6);
-        due("keys differ in high bits", x.segment(2, 5, 7L + (1L << 32)), 7);
-        due("-4 before -3", x.segment(2, 4, 7), -4);
-        x.delete(2);
-        due("a deleted one's key is free", x.segment(2, 1, 7), 8);
-        x.delete(5);
-        due("under a deleted one", x.segment(2, 5, 9), -4);
-        due("made", x.told(1), 8);
-    }
-
-    private static void segmentLimit() {
-        promise = 4;
-        LogicalPairs x = new LogicalPairs();
-        x.kind(0);
-        x.kind(1);
-        for (int number = 1; number <= 250; number++) {
-            due("segment " + number, x.segment(1, 0, -number), number);
-        }
-        due("the 251st", x.segment(1, 0, 0), LogicalPairs.NONE);
-        due("-2 before NONE", x.segment(3, 0, 0), -2);
-        due("-4 before NONE", x.segment(2, 0, 0), -4);
-        due("-3 before NONE", x.segment(1, 0, -250), -3);
-        due("delete the last", x.delete(250), 1);
-        due("there were 250", x.segment(1, 0, -250), LogicalPairs.NONE);
-        due("made", x.told(1), 250);
-        due("there", x.told(2), 249);
+        return x;
     }
 
     /** Kind 1 and, with it as logical parent, kinds 2, 3 and 4 with the rules 0, 1 and 2. */
     private static LogicalPairs withRules() {
-        LogicalPairs x = new LogicalPairs();
-        x.kind(0);
+        LogicalPairs x = kinds(0, 0, 0, 0);
         for (int rule = 0; rule <= 2; rule++) {
-            x.kind(0);
             x.parent(2 + rule, 1, rule);
         }
         return x;
     }
 
-    private static void relate() {
-        promise = 5;
+    /** Segment 1 stays, as 2 is related to it; 3 is gone; 2 and 4 are there. Kinds 1, 3, 1 and 1. */
+    private static LogicalPairs withAllStates() {
         LogicalPairs x = withRules();
-        x.kind(0);
-        x.parent(5, 5, 1);
         x.segment(1, 0, 1);
-        x.segment(1, 0, 2);
         x.segment(3, 0, 1);
-        x.segment(3, 0, 2);
-        x.segment(5, 0, 1);
-        x.segment(5, 0, 2);
-        due("segment 0", x.relate(0, 1), -2);
-        due("other 0", x.relate(3, 0), -2);
-        due("segment 7", x.relate(7, 1), -2);
-        due("other 7", x.relate(3, 7), -2);
-        due("lowest and highest", x.relate(LOW, HIGH), -2);
-        due("no logical parent kind", x.relate(1, 2), -4);
-        due("another kind", x.relate(3, 4), -4);
-        due("itself, of its own logical parent kind", x.relate(5, 5), -4);
-        due("its own kind", x.relate(5, 6), 1);
-        due("both ways", x.relate(6, 5), 1);
-        due("ordinary", x.relate(3, 1), 1);
-        due("already to the same", x.relate(3, 1), -5);
-        due("already to another", x.relate(3, 2), -5);
-        due("-4 before -5", x.relate(3, 4), -4);
-        due("counted once", x.count(1), 1);
-        x.delete(1);
-        due("to one that stays", x.relate(4, 1), 1);
-        due("counted", x.count(1), 2);
-        x.segment(3, 0, 3);
-        x.delete(2);
-        due("to a gone one", x.relate(7, 2), -5);
         x.segment(1, 0, 2);
-        x.delete(7);
-        due("from a gone one", x.relate(7, 8), -5);
-        due("-4 before not there", x.relate(7, 4), -4);
-        due("relations", x.told(4), 4);
+        x.segment(1, 0, 3);
+        x.relate(2, 1);
+        x.delete(1);
+        x.delete(3);
+        return x;
     }
 
-    private static void delete() {
-        promise = 6;
+    private static LogicalPairs full() {
+        LogicalPairs x = kinds(0, 1);
+        for (int number = 1; number <= 250; number++) {
+            x.segment(1, 0, number);
+        }
+        return x;
+    }
+
+    // Promise 1
+
+    private static void newObject() {
         LogicalPairs x = new LogicalPairs();
+        for (int what = 0; what <= 5; what++) {
+            due("told(" + what + ")", x.told(what), 0);
+        }
+        due("no kind 1", x.segment(1, 0, 1), -2);
+        due("no segment 1", x.count(1), -2);
+        due("no segment 1 there", x.there(1, 0), false);
+        due("no entry", x.entry(1, 0), 0);
+        due("check", x.check(), 0);
+        due("broken", x.broken(0), 0);
+    }
+
+    private static void objectsApart() {
+        LogicalPairs x = withAllStates();
+        LogicalPairs y = new LogicalPairs();
+        due("no kinds", y.told(0), 0);
+        due("no segments", y.told(1), 0);
+        due("its first kind", y.kind(0), 1);
+        due("its first segment", y.segment(1, 0, 1), 1);
+        due("the first object has its own", x.told(1), 4);
+    }
+
+    // Promise 2: kind
+
+    private static void kindNumber() {
+        LogicalPairs x = new LogicalPairs();
+        due("first", x.kind(0), 1);
+        due("below the first", x.kind(1), 2);
+        due("below the first, too", x.kind(1), 3);
+        due("below the last", x.kind(3), 4);
+    }
+
+    private static void kindBelowNone() {
+        LogicalPairs x = kinds(0, 0);
+        due("below none, when there are others", x.kind(0), 3);
+        due("its segments are under none", x.segment(3, 0, 1), 1);
+    }
+
+    private static void kindNoSuch() {
+        LogicalPairs x = new LogicalPairs();
+        due("below itself to be", x.kind(1), -2);
         x.kind(0);
+        for (int above : new int[] {2, 3, 15, 16, HIGH, -1, -2, LOW}) {
+            due("below " + above, x.kind(above), -2);
+        }
+        due("no kind is made", x.told(0), 1);
+    }
+
+    private static void kindNone() {
+        LogicalPairs x = new LogicalPairs();
+        for (int number = 1; number <= 15; number++) {
+            due("kind " + number, x.kind(number - 1), number);
+        }
+        due("the 16th", x.kind(0), NONE);
+        due("the 16th below the 15th", x.kind(15), NONE);
+        due("there are 15", x.told(0), 15);
+    }
+
+    private static void kindOrder() {
+        LogicalPairs x = kinds(0, 0, 0, 0, 0, 0, 0, 0, 0, 0, 0, 0, 0, 0, 0);
+        due("no such kind, when there are 15", x.kind(16), -2);
+        due("no such kind either", x.kind(-1), -2);
+    }
+
+    // Promise 3: parent
+
+    private static void parentGiven() {
+        LogicalPairs x = kinds(0, 0, 0, 1);
+        due("rule 0", x.parent(1, 2, 0), 1);
+        due("rule 1", x.parent(2, 1, 1), 1);
+        due("rule 2, of a higher number", x.parent(3, 4, 2), 1);
+        due("of the kind above it", x.parent(4, 1, 2), 1);
+        x.segment(3, 0, 1);
+        x.segment(1, 0, 1);
+        x.segment(4, 2, 1);
+        due("it is the logical parent kind", x.relate(1, 3), 1);
+        due("with its rule", x.delete(3), 2);
+    }
+
+    private static void parentHasOne() {
+        LogicalPairs x = kinds(0, 0, 0);
+        x.parent(1, 2, 1);
+        due("the same again", x.parent(1, 2, 1), 0);
+        due("another one", x.parent(1, 3, 2), 0);
+        x.segment(1, 0, 1);
+        x.segment(2, 0, 1);
+        x.segment(3, 0, 1);
+        due("the second one isn't its", x.relate(1, 3), -4);
+        due("the first one is", x.relate(1, 2), 1);
+        due("with the first rule", x.delete(2), 1);
+        due("by rule 1", x.there(2, 1), true);
+    }
+
+    private static void parentNoSuch() {
+        LogicalPairs x = kinds(0, 0);
+        for (int kind : new int[] {0, 3, 15, 16, HIGH, -1, LOW}) {
+            due("kind " + kind, x.parent(kind, 1, 0), -2);
+            due("other " + kind, x.parent(1, kind, 0), -2);
+            due("both " + kind, x.parent(kind, kind, 0), -2);
+        }
+        due("it has none yet", x.parent(1, 2, 0), 1);
+    }
+
+    private static void parentRule() {
+        LogicalPairs x = kinds(0, 0);
+        for (int rule : new int[] {-1, -2, 3, 4, HIGH, LOW}) {
+            due("rule " + rule, x.parent(1, 2, rule), -4);
+        }
+        due("it has none yet", x.parent(1, 2, 2), 1);
+    }
+
+    private static void parentTooLate() {
+        LogicalPairs x = kinds(0, 0, 0);
+        x.segment(1, 0, 1);
+        due("there is one", x.parent(1, 2, 0), -5);
+        due("there is one of the other kind alone", x.parent(2, 1, 0), 1);
+        x.segment(3, 0, 1);
+        x.delete(2);
+        due("there was one, and it is gone", x.parent(3, 1, 0), -5);
+        due("a refused one makes no segment", x.segment(4, 0, 1), -2);
+    }
+
+    private static void parentOrder() {
+        LogicalPairs x = kinds(0, 0, 0);
+        x.parent(1, 2, 0);
+        due("-2 before -4", x.parent(1, 9, 3), -2);
+        due("-2 before 0", x.parent(1, 9, 0), -2);
+        due("-4 before 0", x.parent(1, 2, 3), -4);
+        x.segment(1, 0, 1);
+        x.segment(3, 0, 1);
+        due("-2 before -5", x.parent(3, 9, 0), -2);
+        due("-4 before -5", x.parent(3, 2, 3), -4);
+        due("-5 before 0", x.parent(1, 2, 0), -5);
+        due("-2 before all", x.parent(1, 9, 9), -2);
+        due("-4 before -5 and 0", x.parent(1, 2, -1), -4);
+    }
+
+    private static void parentItsOwn() {
+        LogicalPairs x = kinds(0);
+        due("its own", x.parent(1, 1, 1), 1);
+        x.segment(1, 0, 1);
+        x.segment(1, 0, 2);
+        due("to one of its own kind", x.relate(1, 2), 1);
+        due("and back", x.relate(2, 1), 1);
+        due("by its own rule", x.delete(1), 1);
+        due("it stays", x.there(1, 1), true);
+    }
+
+    // Promise 10: index
+
+    private static void indexNumber() {
+        LogicalPairs x = kinds(0, 0);
+        due("the first", x.index(2, false), 1);
+        due("the second", x.index(1, true), 2);
+        due("a refused one", x.index(3, true), -2);
+        due("the third, of the kind of the first", x.index(2, true), 3);
+    }
+
+    private static void indexNoSuch() {
+        due("of no kind", new LogicalPairs().index(1, false), -2);
+        LogicalPairs x = kinds(0, 0);
+        for (int kind : new int[] {0, 3, 16, HIGH, -1, LOW}) {
+            due("kind " + kind, x.index(kind, false), -2);
+            due("kind " + kind + ", sparse", x.index(kind, true), -2);
+        }
+        due("no index is made", x.told(5), 0);
+    }
+
+    private static void indexNone() {
+        LogicalPairs x = kinds(0);
+        for (int number = 1; number <= 10; number++) {
+            due("index " + number, x.index(1, number % 2 == 0), number);
+        }
+        due("the eleventh", x.index(1, false), NONE);
+        due("the eleventh, sparse", x.index(1, true), NONE);
+        due("there are 10", x.told(5), 10);
+    }
+
+    private static void indexOrder() {
+        LogicalPairs x = kinds(0);
+        for (int number = 1; number <= 10; number++) {
+            x.index(1, false);
+        }
+        due("no such kind, when there are 10", x.index(2, false), -2);
+    }
+
+    // Promise 4: segment
+
+    private static void segmentNumber() {
+        LogicalPairs x = kinds(0, 1, 2);
+        due("first", x.segment(1, 0, 5), 1);
+        due("under it", x.segment(2, 1, 5), 2);
+        due("under that", x.segment(3, 2, 5), 3);
+        due("the lowest key", x.segment(3, 2, Long.MIN_VALUE), 4);
+        due("the highest key", x.segment(3, 2, Long.MAX_VALUE), 5);
+        due("key 0", x.segment(3, 2, 0), 6);
+        due("a second root", x.segment(1, 0, 6), 7);
+    }
+
+    private static void segmentNoSuch() {
+        due("of no kind", new LogicalPairs().segment(1, 0, 1), -2);
+        LogicalPairs x = kinds(0, 0);
+        for (int kind : new int[] {0, 3, 15, 16, HIGH, -1, LOW}) {
+            due("kind " + kind, x.segment(kind, 0, 1), -2);
+        }
+        due("no segment is made", x.told(1), 0);
+    }
+
+    private static void segmentUnderNoSegment() {
+        LogicalPairs x = kinds(0, 1);
+        x.segment(1, 0, 1);
+        for (int under : new int[] {0, 2, 250, 251, HIGH, -1, LOW}) {
+            due("under " + under, x.segment(2, under, 1), -4);
+        }
+        due("no segment is made", x.told(1), 1);
+    }
+
+    private static void segmentUnderDeleted() {
+        LogicalPairs x = withAllStates();
         x.kind(1);
-        x.kind(2);
+        due("under one that stays", x.segment(5, 1, 1), -4);
+        due("under a gone one", x.segment(5, 3, 1), -4);
+        due("under one that is there", x.segment(5, 4, 1), 5);
+    }
+
+    private static void segmentUnderOtherKind() {
+        LogicalPairs x = kinds(0, 1, 2, 0);
+        x.segment(1, 0, 1);
+        x.segment(2, 1, 1);
+        x.segment(4, 0, 1);
+        due("under one of another tree", x.segment(2, 3, 2), -4);
+        due("under one of its own kind", x.segment(2, 2, 2), -4);
+        due("under one two above", x.segment(3, 1, 2), -4);
+        due("under one of the kind above", x.segment(3, 2, 2), 4);
+    }
+
+    private static void segmentUnderNone() {
+        LogicalPairs x = kinds(0, 1);
+        due("under none", x.segment(1, 0, 1), 1);
+        for (int under : new int[] {1, 2, HIGH, -1, LOW}) {
+            due("a kind below none under " + under, x.segment(1, under, 2), -4);
+        }
+        due("a kind below another under none", x.segment(2, 0, 2), -4);
+    }
+
+    private static void segmentKeyThere() {
+        LogicalPairs x = kinds(0, 1, 1);
+        x.segment(1, 0, 1);
+        x.segment(1, 0, 2);
+        x.segment(2, 1, 7);
+        due("under one", x.segment(2, 1, 7), -3);
+        due("under none", x.segment(1, 0, 1), -3);
+        due("no segment is made", x.told(1), 3);
+        due("under another", x.segment(2, 2, 7), 4);
+        due("of another kind", x.segment(3, 1, 7), 5);
+        x.delete(3);
+        due("its key is there no more", x.segment(2, 1, 7), 6);
+    }
+
+    private static void segmentNone() {
+        LogicalPairs x = kinds(0, 1);
+        for (int number = 1; number <= 250; number++) {
+            due("segment " + number, x.segment(1, 0, -number), number);
+        }
+        due("the 251st", x.segment(1, 0, 0), NONE);
+        due("the 251st under another", x.segment(2, 250, 0), NONE);
+        due("delete the last", x.delete(250), 1);
+        due("there were 250, though one is gone", x.segment(1, 0, -250), NONE);
+        due("made", x.told(1), 250);
+        due("there", x.told(2), 249);
+    }
+
+    private static void segmentOrder() {
+        LogicalPairs x = kinds(0, 1, 1);
+        x.segment(1, 0, 1);
+        x.segment(2, 1, 7);
+        due("-2 before -4", x.segment(4, 9, 7), -2);
+        due("-4 before -3", x.segment(1, 9, 1), -4);
+        LogicalPairs full = full();
+        due("-2 before NONE", full.segment(3, 0, 251), -2);
+        due("-4 before NONE", full.segment(2, 0, 251), -4);
+        due("-3 before NONE", full.segment(1, 0, 250), -3);
+    }
+
+    // Promise 5: relate
+
+    private static void relateOrdinary() {
+        LogicalPairs x = withRules();
+        for (int kind = 1; kind <= 4; kind++) {
+            x.segment(kind, 0, 1);
+        }
+        for (int segment = 2; segment <= 4; segment++) {
+            due("by rule " + (segment - 2), x.relate(segment, 1), 1);
+            due("count", x.count(1), segment - 1);
+        }
+        due("relations", x.told(4), 3);
+    }
+
+    private static void relateNoSuch() {
+        LogicalPairs x = withRules();
+        x.segment(1, 0, 1);
+        x.segment(3, 0, 1);
+        for (int segment : new int[] {0, 3, 250, 251, HIGH, -1, LOW}) {
+            due("segment " + segment, x.relate(segment, 1), -2);
+            due("other " + segment, x.relate(2, segment), -2);
+            due("both " + segment, x.relate(segment, segment), -2);
+        }
+        due("no relations", x.told(4), 0);
+    }
+
+    private static void relateOtherKind() {
+        LogicalPairs x = withRules();
+        for (int kind = 1; kind <= 4; kind++) {
+            x.segment(kind, 0, 1);
+            x.segment(kind, 0, 2);
+        }
+        due("no logical parent kind", x.relate(1, 3), -4);
+        due("no logical parent kind, to its own", x.relate(1, 2), -4);
+        due("to its own kind", x.relate(3, 4), -4);
+        due("to another kind", x.relate(3, 5), -4);
+        due("no relations", x.told(4), 0);
+        due("to the right kind", x.relate(3, 2), 1);
+    }
+
+    private static void relateSame() {
+        LogicalPairs x = kinds(0);
+        x.parent(1, 1, 1);
+        x.segment(1, 0, 1);
+        x.segment(1, 0, 2);
+        due("itself", x.relate(1, 1), -4);
+        due("another of its kind", x.relate(1, 2), 1);
+        due("itself, when it is related", x.relate(1, 1), -4);
+        x.delete(2);
+        due("itself, when it stays", x.relate(2, 2), -4);
+    }
+
+    private static void relateNotThere() {
+        LogicalPairs x = withAllStates();
+        x.segment(3, 0, 2);
+        x.segment(3, 0, 3);
+        x.delete(6);
+        due("to a gone one", x.relate(5, 3), -5);
+        due("from a gone one", x.relate(6, 4), -5);
+        due("from a gone one to a gone one", x.relate(6, 3), -5);
+        due("relations", x.told(4), 1);
+        LogicalPairs own = kinds(0);
+        own.parent(1, 1, 1);
+        for (int key = 1; key <= 3; key++) {
+            own.segment(1, 0, key);
+        }
+        own.relate(2, 1);
+        own.delete(1);
+        due("from one that stays", own.relate(1, 3), -5);
+    }
+
+    private static void relateToStaying() {
+        LogicalPairs x = withAllStates();
+        x.segment(3, 0, 2);
+        x.segment(2, 0, 1);
+        due("to one that stays", x.relate(5, 1), 1);
+        due("by rule 0, too", x.relate(6, 1), 1);
+        due("count", x.count(1), 3);
+        x.delete(2);
+        x.delete(5);
+        due("it stays by the last one", x.there(1, 1), true);
+        x.delete(6);
+        x.segment(3, 0, 3);
+        due("it is gone", x.relate(7, 1), -5);
+    }
+
+    private static void relateAlready() {
+        LogicalPairs x = withAllStates();
+        due("to the same one", x.relate(2, 1), -5);
+        due("to another one", x.relate(2, 4), -5);
+        due("count", x.count(1), 1);
+        due("count of the other one", x.count(4), 0);
+        due("relations", x.told(4), 1);
+    }
+
+    private static void relateOrder() {
+        LogicalPairs x = withAllStates();
+        x.segment(3, 0, 2);
+        x.delete(5);
+        due("-2 before -4", x.relate(4, 9), -2);
+        due("-2 before -5", x.relate(5, 9), -2);
+        due("-4 before -5, being not there", x.relate(5, 2), -4);
+        due("-4 before -5, the other one being gone", x.relate(4, 3), -4);
+        due("-4 before -5, being related already", x.relate(2, 5), -4);
+        due("-4 before -5, being the same gone one", x.relate(5, 5), -4);
+    }
+
+    // Promise 6: delete
+
+    private static void deleteHowManyWent() {
+        LogicalPairs x = kinds(0, 1, 2);
         x.segment(1, 0, 1);
         x.segment(2, 1, 1);
         x.segment(3, 2, 1);
         x.segment(3, 2, 2);
         x.segment(2, 1, 2);
         x.segment(1, 0, 2);
-        due("segment 0", x.delete(0), -2);
-        due("segment 7", x.delete(7), -2);
-        due("lowest", x.delete(LOW), -2);
-        due("highest", x.delete(HIGH), -2);
         due("a leaf", x.delete(4), 1);
-        due("again", x.delete(4), -5);
         due("a tree without what went before", x.delete(1), 4);
-        for (int each = 1; each <= 5; each++) {
-            due("there " + each, x.there(each, 0), false);
-            due("stays " + each, x.there(each, 1), false);
-        }
-        due("the other root", x.there(6, 0), true);
-        due("one that went with its tree", x.delete(3), -5);
+        due("what is left", x.told(2), 1);
+        due("the last", x.delete(6), 1);
     }
 
-    private static void deleteByRules() {
-        promise = 6;
-        for (int rule = 0; rule <= 2; rule++) {
-            LogicalPairs x = withRules();
-            x.kind(2 + rule);
-            x.segment(1, 0, 1);
-            x.segment(2 + rule, 0, 1);
-            x.segment(5, 2, 1);
-            x.relate(2, 1);
-            due("rule " + rule, x.delete(1), rule == 0 ? -5 : rule == 1 ? 1 : 3);
-            due("there by rule " + rule, x.there(1, 0), rule == 0);
-            due("stays by rule " + rule, x.there(1, 1), rule == 1);
-            due("related one by rule " + rule, x.there(2, 0), rule != 2);
-            due("below the related one by rule " + rule, x.there(3, 0), rule != 2);
-            due("relations by rule " + rule, x.told(4), rule == 2 ? 0 : 1);
+    private static void deleteHowManyStay() {
+        LogicalPairs x = kinds(0, 1, 1, 0, 0);
+        x.parent(4, 1, 1);
+        x.parent(5, 2, 1);
+        x.segment(1, 0, 1);
+        x.segment(2, 1, 1);
+        x.segment(3, 1, 1);
+        x.segment(4, 0, 1);
+        x.segment(5, 0, 1);
+        x.relate(4, 1);
+        x.relate(5, 2);
+        due("two stay, one is gone", x.delete(1), 3);
+        due("stay", x.told(3), 2);
+        due("one that stayed before is not counted", x.delete(4), 1);
+        due("it is gone", x.there(1, 1), false);
+    }
+
+    private static void deleteNoSuch() {
+        due("of no segments", new LogicalPairs().delete(1), -2);
+        LogicalPairs x = withAllStates();
+        for (int segment : new int[] {0, 5, 250, 251, HIGH, -1, LOW}) {
+            due("segment " + segment, x.delete(segment), -2);
         }
+        due("nothing went", x.told(2), 2);
+    }
+
+    private static void deleteNotThere() {
+        LogicalPairs x = withAllStates();
+        due("one that stays", x.delete(1), -5);
+        due("a gone one", x.delete(3), -5);
+        due("the one still stays", x.there(1, 1), true);
+        x.kind(1);
+        x.segment(5, 4, 1);
+        x.delete(4);
+        due("one that went with the one above it", x.delete(5), -5);
+    }
+
+    private static void deleteBarred() {
         LogicalPairs x = withRules();
         for (int kind = 1; kind <= 4; kind++) {
             x.segment(kind, 0, 1);
             x.relate(kind, 1);
         }
-        due("all three rules: barred", x.delete(1), -5);
-        due("nothing goes if one is barred", x.told(2), 4);
-        due("no relation goes if one is barred", x.told(4), 3);
-        due("the one that bars", x.delete(2), 1);
-        due("stays by rule 1, and takes the one of rule 2", x.delete(1), 2);
-        due("stays", x.there(1, 1), true);
-        due("the one of rule 1", x.there(3, 0), true);
-        due("the one of rule 2", x.there(4, 0), false);
-        due("count of those left", x.count(1), 1);
-        due("one that stays isn't there", x.delete(1), -5);
-    }
-
-    private static void deleteGathersFirst() {
-        promise = 6;
-        // Segment 2 would bar segment 1, but is below segment 3, which goes by rule 2.
-        LogicalPairs x = new LogicalPairs();
-        x.kind(0);
-        x.kind(0);
-        x.kind(2);
-        x.parent(2, 1, 2);
-        x.parent(3, 1, 0);
-        x.segment(1, 0, 1);
-        x.segment(2, 0, 1);
-        x.segment(3, 2, 1);
-        x.relate(3, 1);
-        due("barred while it does not go too", x.delete(1), -5);
-        x.relate(2, 1);
-        due("one that goes too by rule 2 bars nothing", x.delete(1), 3);
-        due("all went", x.told(2) + x.told(3) + x.told(4), 0);
-
-        LogicalPairs below = new LogicalPairs();
-        below.kind(0);
-        below.kind(1);
-        below.parent(2, 1, 0);
-        below.segment(1, 0, 1);
-        below.segment(1, 0, 2);
-        below.segment(2, 1, 1);
-        below.segment(2, 1, 2);
-        below.relate(3, 1);
-        below.relate(4, 2);
-        due("barred by one below another", below.delete(2), -5);
-        due("one below it bars nothing", below.delete(1), 3);
-        due("nor any more the other", below.delete(2), 1);
-
-        LogicalPairs ring = new LogicalPairs();
-        ring.kind(0);
-        ring.parent(1, 1, 2);
-        for (int each = 1; each <= 5; each++) {
-            ring.segment(1, 0, each);
-        }
-        for (int each = 1; each <= 4; each++) {
-            ring.relate(each, each % 4 + 1);
-        }
-        ring.relate(5, 1);
-        due("and so on, round a ring", ring.delete(3), 5);
-        due("none there", ring.told(2), 0);
-
-        LogicalPairs barredFar = withRules();
-        barredFar.kind(4);
-        barredFar.kind(0);
-        barredFar.parent(6, 5, 0);
-        barredFar.segment(1, 0, 1);
-        barredFar.segment(4, 0, 1);
-        barredFar.segment(5, 2, 1);
-        barredFar.segment(6, 0, 1);
-        barredFar.relate(2, 1);
-        barredFar.relate(4, 3);
-        due("barred at one that would go too", barredFar.delete(1), -5);
-        due("nothing went", barredFar.told(2), 4);
-    }
-
-    private static void deleteAndStay() {
-        promise = 6;
-        LogicalPairs x = new LogicalPairs();
-        x.kind(0);
-        x.parent(1, 1, 1);
-        for (int each = 1; each <= 4; each++) {
-            x.segment(1, 0, each);
-        }
-        x.relate(2, 1);
-        x.relate(3, 2);
-        x.relate(4, 1);
-        due("the middle one stays", x.delete(2), 1);
-        due("it stays", x.there(2, 1), true);
-        due("it is related to none any more", x.child(1, 1, 0), 4);
-        due("nor counted", x.count(1), 1);
-        due("relations", x.told(4), 2);
-        due("first one stays", x.delete(1), 1);
-        due("one that was related goes; one that stayed is not counted", x.delete(4), 1);
-        due("the one without count is gone", x.there(1, 1), false);
-        due("the one with a count stays", x.there(2, 1), true);
-        due("key of one that stays is free", x.segment(1, 0, 2), 5);
-        due("last", x.delete(3), 1);
-        due("stay", x.told(3), 0);
-
-        // Those that stay with the whole tree are counted with those that went.
-        LogicalPairs tree = withRules();
-        tree.kind(1);
-        tree.kind(5);
-        tree.kind(0);
-        tree.parent(7, 6, 1);
-        tree.segment(1, 0, 1);
-        tree.segment(5, 1, 1);
-        tree.segment(6, 2, 1);
-        tree.segment(7, 0, 1);
-        tree.relate(4, 3);
-        due("went or stay", tree.delete(1), 3);
-        due("the lowest one stays", tree.there(3, 1), true);
-        due("the middle one does not", tree.there(2, 1), false);
-        due("it is no one's child", tree.poke(3, 0, 0), 0);
-    }
-
-    /** All 15 kinds and 250 segments: each row is used to its last place. */
-    private static void fullObject() {
-        promise = 6;
-        LogicalPairs x = new LogicalPairs();
-        for (int kind = 1; kind <= 15; kind++) {
-            x.kind(0);
-        }
-        due("parent of the last kind", x.parent(15, 15, 2), 1);
-        due("parent of the one before it", x.parent(14, 15, 0), 1);
-        x.index(15, false);
-        for (int number = 1; number <= 249; number++) {
-            x.segment(15, 0, number);
-        }
-        due("the last segment", x.segment(14, 0, 1), 250);
-        for (int number = 31; number <= 250; number++) {
-            x.relate(number, number - 1);
-        }
-        due("last entry", x.entry(1, 248), 249);
-        due("behind the last entry", x.entry(1, 249), 0);
-        due("last logical child", x.child(249, 1, 0), 250);
-        due("behind the last logical child", x.child(249, 1, 1), 0);
-        due("no child", x.child(249, 0, 0), 0);
-        due("barred by the last one", x.delete(30), -5);
-        due("all are there", x.told(2), 250);
-        due("the last one", x.delete(250), 1);
-        due("all that are related, one by the other", x.delete(30), 220);
-        due("the others", x.told(2), 29);
-        due("no relations", x.told(4), 0);
-
-        LogicalPairs all = new LogicalPairs();
-        all.kind(0);
-        all.kind(1);
-        all.segment(1, 0, 0);
-        for (int number = 2; number <= 250; number++) {
-            all.segment(2, 1, number);
-        }
-        due("last child", all.child(1, 0, 248), 250);
-        due("behind the last child", all.child(1, 0, 249), 0);
-        due("all 250", all.delete(1), 250);
-
-        LogicalPairs again = withRules();
-        for (int number = 1; number <= 248; number++) {
-            again.segment(1, 0, number);
-        }
-        again.segment(2, 0, 1);
-        again.segment(4, 0, 1);
-        again.relate(249, 1);
-        again.relate(250, 1);
-        due("barred, though the last one would go", again.delete(1), -5);
-        again.delete(249);
-        due("a barred delete leaves no mark on the last one", again.delete(1), 2);
-    }
-
-    private static void there() {
-        promise = 7;
-        LogicalPairs x = withRules();
-        x.segment(1, 0, 1);
-        x.segment(3, 0, 1);
-        x.relate(2, 1);
-        due("there", x.there(1, 0), true);
-        due("one that is there does not stay", x.there(1, 1), false);
-        x.delete(1);
-        due("deleted", x.there(1, 0), false);
-        due("stays", x.there(1, 1), true);
-        due("side 2", x.there(2, 2), false);
-        due("side -1", x.there(1, -1), false);
+        due("by one of three", x.delete(1), -5);
+        due("all are there", x.told(2), 4);
+        due("all relations are", x.told(4), 3);
         x.delete(2);
-        due("gone", x.there(1, 0) || x.there(1, 1), false);
-        for (int side = 0; side <= 1; side++) {
-            due("segment 0", x.there(0, side), false);
-            due("segment 3", x.there(3, side), false);
-            due("lowest", x.there(LOW, side), false);
-            due("highest", x.there(HIGH, side), false);
+        due("barred no more", x.delete(1), 2);
+    }
+
+    private static void deleteAfterBarred() {
+        LogicalPairs x = withRules();
+        for (int number = 1; number <= 248; number++) {
+            x.segment(1, 0, number);
+        }
+        x.segment(2, 0, 1);
+        x.segment(4, 0, 1);
+        x.relate(249, 1);
+        x.relate(250, 1);
+        due("barred, though the last one would go", x.delete(1), -5);
+        due("another one goes alone", x.delete(2), 1);
+        due("the one that bars", x.delete(249), 1);
+        due("with the last one", x.delete(1), 2);
+    }
+
+    // Promise 7: there
+
+    private static void thereSideZero() {
+        LogicalPairs x = withAllStates();
+        due("stays", x.there(1, 0), false);
+        due("there, and related", x.there(2, 0), true);
+        due("gone", x.there(3, 0), false);
+        due("there", x.there(4, 0), true);
+    }
+
+    private static void thereSideOne() {
+        LogicalPairs x = withAllStates();
+        x.segment(3, 0, 2);
+        x.relate(5, 4);
+        due("stays", x.there(1, 1), true);
+        due("there, and related", x.there(2, 1), false);
+        due("gone", x.there(3, 1), false);
+        due("there, with a count", x.there(4, 1), false);
+    }
+
+    private static void thereOtherSides() {
+        LogicalPairs x = withAllStates();
+        for (int side : new int[] {2, 3, HIGH, -1, LOW}) {
+            due("one that stays, side " + side, x.there(1, side), false);
+            due("one that is there, side " + side, x.there(2, side), false);
         }
     }
+
+    private static void thereNoSuch() {
+        LogicalPairs x = withAllStates();
+        for (int segment : new int[] {0, 5, 250, 251, HIGH, -1, LOW}) {
+            due("segment " + segment + ", side 0", x.there(segment, 0), false);
+            due("segment " + segment + ", side 1", x.there(segment, 1), false);
+        }
+    }
+
+    // Promise 8: child
 
     private static void children(String what, LogicalPairs x, int segment, int side, int... want) {
         for (int i = 0; i < want.length; i++) {
             due(what + ", child " + i, x.child(segment, side, i), want[i]);
         }
         due(what + ", behind the last", x.child(segment, side, want.length), 0);
-        due(what + ", at the highest place", x.child(segment, side, HIGH), 0);
-        due(what + ", at place -1", x.child(segment, side, -1), 0);
-        due(what + ", at the lowest place", x.child(segment, side, LOW), 0);
     }
 
-    private static void childPhysical() {
-        promise = 8;
-        LogicalPairs x = new LogicalPairs();
-        x.kind(0);
-        x.kind(1);
-        x.kind(1);
-        x.kind(2);
+    private static void childFromZero() {
+        LogicalPairs x = kinds(0, 1);
+        x.parent(2, 1, 0);
+        x.segment(1, 0, 0);
+        for (int number = 2; number <= 111; number++) {
+            x.segment(2, 1, number);
+            x.relate(number, 1);
+        }
+        for (int i = 0; i < 110; i++) {
+            due("child " + i, x.child(1, 0, i), i + 2);
+            due("logical child " + i, x.child(1, 1, i), i + 2);
+        }
+        due("behind the last", x.child(1, 0, 110), 0);
+        due("behind the last logical", x.child(1, 1, 110), 0);
+    }
+
+    private static void childUnder() {
+        LogicalPairs x = kinds(0, 1, 2, 0);
+        x.parent(4, 2, 1);
         x.segment(1, 0, 1);
         x.segment(1, 0, 2);
-        x.segment(3, 1, -5);
-        x.segment(2, 1, 9);
-        x.segment(2, 1, Long.MIN_VALUE);
-        x.segment(3, 1, Long.MAX_VALUE);
+        x.segment(2, 1, 1);
+        x.segment(2, 1, 2);
         x.segment(2, 2, 3);
-        x.segment(2, 1, 0);
-        x.segment(4, 4, 0);
-        children("by kinds, then keys", x, 1, 0, 5, 8, 4, 3, 6);
-        children("of another one", x, 2, 0, 7);
-        children("of the middle", x, 4, 0, 9);
-        children("of a leaf", x, 9, 0);
-        children("of segment 0", x, 0, 0);
-        children("of segment 10", x, 10, 0);
-        children("of the lowest", x, LOW, 0);
-        children("of the highest", x, HIGH, 0);
-        children("side 2", x, 1, 2);
-        children("side -1", x, 1, -1);
-        x.delete(8);
+        x.segment(3, 3, 1);
+        x.segment(4, 0, 1);
+        x.relate(7, 3);
+        children("of one", x, 1, 0, 3, 4);
+        children("of another one", x, 2, 0, 5);
+        children("of the middle", x, 3, 0, 6);
+        children("of a leaf", x, 6, 0);
         x.delete(3);
-        children("without the deleted ones", x, 1, 0, 5, 4, 6);
+        children("without one that stays", x, 1, 0, 4);
+        children("of one that stays", x, 3, 0);
+        x.delete(4);
+        children("without a gone one", x, 1, 0);
         x.delete(1);
         children("of a gone one", x, 1, 0);
     }
 
-    private static void childLogical() {
-        promise = 8;
+    private static void childUnderOrder() {
+        LogicalPairs x = kinds(0, 1, 1);
+        x.segment(1, 0, 1);
+        x.segment(3, 1, -5);
+        x.segment(2, 1, 9);
+        x.segment(2, 1, Long.MIN_VALUE);
+        x.segment(3, 1, Long.MAX_VALUE);
+        x.segment(3, 1, -6);
+        x.segment(2, 1, 0);
+        children("by kinds, then keys", x, 1, 0, 4, 7, 3, 6, 2, 5);
+    }
+
+    private static void childRelated() {
         LogicalPairs x = withRules();
-        x.kind(1);
-        x.parent(5, 1, 1);
         x.segment(1, 0, 1);
         x.segment(1, 0, 2);
-        x.segment(4, 0, 5);
+        x.segment(2, 0, 1);
+        x.segment(3, 0, 2);
+        x.segment(4, 0, 3);
+        x.segment(3, 0, 4);
         x.segment(3, 0, 5);
-        x.segment(3, 0, -5);
-        x.segment(5, 1, 5);
-        x.segment(3, 0, 8);
-        x.segment(5, 2, 4);
-        for (int each = 8; each >= 3; each--) {
-            x.relate(each, each == 7 ? 2 : 1);
+        for (int each = 3; each <= 5; each++) {
+            x.relate(each, 1);
         }
-        children("by keys, then numbers", x, 1, 1, 5, 8, 3, 4, 6);
-        children("of another one", x, 2, 1, 7);
-        children("of one without", x, 3, 1);
-        children("of segment 0", x, 0, 1);
-        children("of segment 9", x, 9, 1);
+        x.relate(6, 2);
+        children("of one, of three kinds", x, 1, 1, 3, 4, 5);
+        children("of another one", x, 2, 1, 6);
+        children("of one that is related itself", x, 3, 1);
+        x.delete(3);
+        children("without a gone one", x, 1, 1, 4, 5);
         x.delete(1);
-        children("of one that stays", x, 1, 1, 5, 8, 4);
-        children("it has no children under it", x, 1, 0);
+        children("of one that stays", x, 1, 1, 4);
         x.delete(4);
-        x.delete(5);
-        x.delete(8);
         children("of a gone one", x, 1, 1);
     }
 
-    private static void count() {
-        promise = 9;
+    private static void childRelatedOrder() {
+        LogicalPairs x = withRules();
+        x.segment(1, 0, 1);
+        x.segment(4, 0, 5);
+        x.segment(3, 0, 5);
+        x.segment(3, 0, Long.MIN_VALUE);
+        x.segment(2, 0, 5);
+        x.segment(3, 0, Long.MAX_VALUE);
+        x.segment(4, 0, -4);
+        for (int each = 7; each >= 2; each--) {
+            x.relate(each, 1);
+        }
+        children("by keys, then numbers", x, 1, 1, 4, 7, 2, 3, 5, 6);
+    }
+
+    private static void childNone() {
+        LogicalPairs x = kinds(0, 1);
+        x.parent(2, 1, 0);
+        x.segment(1, 0, 1);
+        x.segment(2, 1, 1);
+        x.relate(2, 1);
+        for (int i : new int[] {1, 2, 250, HIGH, -1, LOW}) {
+            due("under it, " + i, x.child(1, 0, i), 0);
+            due("related to it, " + i, x.child(1, 1, i), 0);
+        }
+        due("under one without", x.child(2, 0, 0), 0);
+        due("related to one without", x.child(2, 1, 0), 0);
+    }
+
+    private static void childNoSuch() {
+        LogicalPairs x = withAllStates();
+        for (int segment : new int[] {0, 5, 250, 251, HIGH, -1, LOW}) {
+            due("under " + segment, x.child(segment, 0, 0), 0);
+            due("related to " + segment, x.child(segment, 1, 0), 0);
+        }
+        for (int side : new int[] {2, HIGH, -1, LOW}) {
+            due("side " + side, x.child(1, side, 0), 0);
+        }
+    }
+
+    // Promise 9: count
+
+    private static void countOrdinary() {
         LogicalPairs x = withRules();
         x.segment(1, 0, 1);
         x.segment(3, 0, 1);
         x.segment(4, 0, 1);
-        due("none yet", x.count(1), 0);
+        due("none", x.count(1), 0);
         x.relate(2, 1);
         x.relate(3, 1);
         due("two", x.count(1), 2);
@@ -538,77 +823,59 @@ public final class PromiseTest {
         due("of one that stays", x.count(1), 1);
         x.delete(2);
         due("of a gone one", x.count(1), 0);
-        due("segment 0", x.count(0), -2);
-        due("segment 4", x.count(4), -2);
-        due("lowest", x.count(LOW), -2);
-        due("highest", x.count(HIGH), -2);
     }
 
-    private static void index() {
-        promise = 10;
-        LogicalPairs x = new LogicalPairs();
-        due("no kind yet", x.index(1, false), -2);
-        x.kind(0);
-        due("kind 0", x.index(0, false), -2);
-        due("kind 2", x.index(2, true), -2);
-        due("lowest", x.index(LOW, true), -2);
-        due("highest", x.index(HIGH, true), -2);
-        for (int number = 1; number <= 10; number++) {
-            due("index " + number, x.index(1, number % 2 == 0), number);
+    private static void countNoSuch() {
+        due("of no segments", new LogicalPairs().count(1), -2);
+        LogicalPairs x = withAllStates();
+        for (int segment : new int[] {0, 5, 250, 251, HIGH, -1, LOW}) {
+            due("segment " + segment, x.count(segment), -2);
         }
-        due("the eleventh", x.index(1, false), LogicalPairs.NONE);
-        due("-2 before NONE", x.index(2, false), -2);
-        due("indexes", x.told(5), 10);
     }
 
-    private static void entries(String what, LogicalPairs x, int index, int... want) {
-        for (int i = 0; i < want.length; i++) {
-            due(what + ", entry " + i, x.entry(index, i), want[i]);
+    // Promise 11: entry
+
+    private static void entryFromZero() {
+        LogicalPairs x = full();
+        x.index(1, false);
+        for (int i = 0; i < 250; i++) {
+            due("entry " + i, x.entry(1, i), i + 1);
         }
-        due(what + ", behind the last", x.entry(index, want.length), 0);
-        due(what + ", at the highest place", x.entry(index, HIGH), 0);
-        due(what + ", at place -1", x.entry(index, -1), 0);
-        due(what + ", at the lowest place", x.entry(index, LOW), 0);
+        due("behind the last", x.entry(1, 250), 0);
     }
 
-    private static void entry() {
-        promise = 11;
-        LogicalPairs x = withRules();
-        x.kind(1);
-        x.parent(5, 1, 1);
-        x.index(5, false);
-        x.segment(1, 0, 1);
-        x.segment(1, 0, 2);
-        x.segment(5, 2, 4);
-        x.segment(5, 1, 4);
-        x.segment(5, 1, 0);
-        x.segment(5, 2, -3);
-        x.segment(5, 2, 0);
-        x.segment(5, 2, 1L << 32);
-        x.index(5, true);
+    private static void entryNone() {
+        LogicalPairs x = withAllStates();
+        x.index(1, false);
+        x.index(2, false);
+        due("one that is there", x.entry(1, 0), 4);
+        for (int i : new int[] {1, 2, 250, HIGH, -1, LOW}) {
+            due("entry " + i, x.entry(1, i), 0);
+        }
+        due("of a kind without segments", x.entry(2, 0), 0);
+        x.delete(4);
+        due("of a kind whose segments went", x.entry(1, 0), 0);
+        x.segment(1, 0, 0);
         x.index(1, true);
-        entries("by key, equal ones by number", x, 1, 6, 5, 7, 3, 4, 8);
-        entries("sparse", x, 2, 6, 3, 4, 8);
-        entries("another kind", x, 3, 1, 2);
-        entries("index 0", x, 0);
-        entries("index 4", x, 4);
-        entries("lowest", x, LOW);
-        entries("highest", x, HIGH);
-        x.relate(3, 1);
-        x.delete(1);
-        due("stays", x.there(1, 1), true);
-        entries("one that stays is in none", x, 3, 2);
-        entries("in step with a delete", x, 1, 6, 7, 3, 8);
-        entries("sparse, in step", x, 2, 6, 3, 8);
+        due("sparse, with key 0 alone", x.entry(3, 0), 0);
     }
 
-    private static void poke() {
-        promise = 12;
-        LogicalPairs x = withRules();
-        x.kind(1);
-        x.parent(5, 1, 1);
+    private static void entryNoSuch() {
+        LogicalPairs x = withAllStates();
+        due("no indexes", x.entry(1, 0), 0);
+        x.index(1, false);
+        for (int index : new int[] {0, 2, 10, 11, HIGH, -1, LOW}) {
+            due("index " + index, x.entry(index, 0), 0);
+        }
+    }
+
+    // Promise 12: poke
+
+    private static void pokeOrdinary() {
+        LogicalPairs x = kinds(0, 1);
+        x.parent(2, 1, 1);
         x.segment(1, 0, 1);
-        x.segment(5, 1, 1);
+        x.segment(2, 1, 1);
         x.relate(2, 1);
         due("above", x.poke(2, 0, HIGH), 1);
         due("related", x.poke(2, 1, LOW), 1);
@@ -616,100 +883,99 @@ public final class PromiseTest {
         due("above, poked", x.poke(2, 0, 1), HIGH);
         due("related, poked", x.poke(2, 1, 1), LOW);
         due("count, poked", x.poke(1, 2, 1), -2);
-        due("above none", x.poke(1, 0, 0), 0);
-        due("related to none", x.poke(1, 1, 0), 0);
-        due("pointer 3", x.poke(1, 3, 0), -4);
-        due("pointer -1", x.poke(1, -1, 0), -4);
-        due("lowest pointer", x.poke(1, LOW, 0), -4);
-        due("highest pointer", x.poke(1, HIGH, 0), -4);
-        due("segment 0", x.poke(0, 0, 0), -2);
-        due("segment 3", x.poke(3, 0, 0), -2);
-        due("-2 before -4", x.poke(LOW, 3, 0), -2);
-        x.segment(3, 0, 1);
-        x.relate(3, 1);
-        x.delete(1);
-        due("of one that stays", x.poke(1, 2, 5), 1);
-        due("of a gone one", x.poke(2, 0, 0), -5);
-        due("-4 before -5", x.poke(2, 3, 0), -4);
+        due("above none", x.poke(1, 0, 5), 0);
+        due("related to none", x.poke(1, 1, 6), 0);
+        due("count of none", x.poke(2, 2, 7), 0);
+        due("the first one's pointers are its own", x.poke(1, 2, 1), 1);
     }
 
-    private static void check() {
-        promise = 13;
+    private static void pokeStaying() {
+        LogicalPairs x = withAllStates();
+        due("one that is there", x.poke(4, 2, 8), 0);
+        due("one that stays", x.poke(1, 2, 8), 1);
+        due("both from now on", x.poke(4, 2, 0), 8);
+        due("and this", x.poke(1, 2, 1), 8);
+    }
+
+    private static void pokeNoSuch() {
+        due("of no segments", new LogicalPairs().poke(1, 0, 0), -2);
+        LogicalPairs x = withAllStates();
+        for (int segment : new int[] {0, 5, 250, 251, HIGH, -1, LOW}) {
+            due("segment " + segment, x.poke(segment, 0, 7), -2);
+            due("segment " + segment + ", pointer 2", x.poke(segment, 2, 7), -2);
+        }
+        due("nothing is wrong", x.check(), 0);
+    }
+
+    private static void pokePointer() {
+        LogicalPairs x = withAllStates();
+        for (int pointer : new int[] {3, 4, HIGH, -1, LOW}) {
+            due("pointer " + pointer, x.poke(2, pointer, 7), -4);
+            due("pointer " + pointer + " of one that stays", x.poke(1, pointer, 7), -4);
+        }
+        due("nothing is wrong", x.check(), 0);
+    }
+
+    private static void pokeGone() {
+        LogicalPairs x = withAllStates();
+        for (int pointer = 0; pointer <= 2; pointer++) {
+            due("pointer " + pointer, x.poke(3, pointer, 7), -5);
+        }
+        x.delete(2);
+        due("one that stayed", x.poke(1, 2, 7), -5);
+        due("one that went", x.poke(2, 1, 7), -5);
+    }
+
+    private static void pokeOrder() {
+        LogicalPairs x = withAllStates();
+        due("-2 before -4", x.poke(5, 3, 0), -2);
+        due("-4 before -5", x.poke(3, 3, 0), -4);
+    }
+
+    // Promise 13: check
+
+    private static void checkHowMany() {
         LogicalPairs x = withRules();
         x.segment(1, 0, 1);
         x.segment(3, 0, 1);
         x.relate(2, 1);
-        due("all right", x.check(), 0);
+        due("none", x.check(), 0);
         x.poke(1, 0, 4);
         x.poke(1, 1, 4);
         x.poke(1, 2, 4);
+        due("all three of one", x.check(), 3);
         x.poke(2, 1, 0);
-        due("four", x.check(), 4);
-        x.poke(2, 1, 1);
-        due("one poked back", x.check(), 3);
-        x.poke(1, 0, 0);
-        due("another poked back", x.check(), 2);
-        x.poke(2, 0, 2);
-        x.delete(2);
-        due("those of a gone one don't matter", x.check(), 0);
-        x.segment(3, 0, 2);
-        x.relate(3, 1);
-        x.delete(1);
-        x.poke(1, 1, 3);
-        due("of one that stays", x.check(), 1);
+        due("of another one, too", x.check(), 4);
+        x.poke(1, 2, 5);
+        due("poked again to something wrong", x.check(), 4);
+        x.poke(1, 2, 1);
+        due("poked to what is true", x.check(), 3);
+        x.poke(2, 0, 0);
+        due("poked to what it said", x.check(), 3);
     }
 
-    private static void pointersSetRight() {
-        promise = 13;
-        LogicalPairs x = withRules();
-        x.kind(1);
-        x.segment(1, 0, 1);
-        x.segment(3, 0, 1);
-        x.segment(3, 0, 2);
-        pokeAll(x, 3);
-        due("poked", x.check(), 9);
-        x.segment(5, 1, 1);
-        due("a new one changes no pointer of the one above it", x.check(), 9);
-        due("refused relate", x.relate(2, 4), -4);
-        due("a refused relate sets nothing right", x.check(), 9);
-        x.relate(2, 1);
-        due("relate sets both right", x.check(), 3);
-        pokeAll(x, 3);
-        x.delete(1);
-        due("one that stays is set right, those related to it are not", x.check(), 6);
-        due("not the related one", x.broken(0), 2);
-        due("above of one that stays", x.poke(1, 0, 7), 0);
-        x.relate(3, 1);
-        due("relate to one that stays", x.check(), 3);
-        x.poke(1, 0, 7);
-        x.poke(1, 1, 7);
-        due("more", x.check(), 5);
+    private static void checkThereOrStay() {
+        LogicalPairs x = withAllStates();
+        x.poke(4, 1, 9);
+        due("of one that is there", x.check(), 1);
+        x.poke(1, 1, 9);
+        due("of one that stays", x.check(), 2);
+        x.delete(4);
+        due("not of one that went", x.check(), 1);
         x.delete(2);
-        due("the one whose count falls is set right", x.check(), 0);
+        due("not of one that stayed and is gone", x.check(), 0);
 
-        LogicalPairs barred = withRules();
-        barred.segment(1, 0, 1);
-        barred.segment(2, 0, 1);
-        barred.relate(2, 1);
-        pokeAll(barred, 2);
-        due("barred", barred.delete(1), -5);
-        due("a barred delete sets nothing right", barred.check(), 6);
-        due("goes by what is true", barred.delete(2), 1);
-        due("count is right", barred.poke(1, 2, 0), 0);
-    }
-
-    private static void pokeAll(LogicalPairs x, int last) {
-        for (int each = 1; each <= last; each++) {
-            for (int pointer = 0; pointer <= 2; pointer++) {
-                x.poke(each, pointer, 100);
-            }
+        LogicalPairs all = full();
+        for (int segment = 1; segment <= 250; segment++) {
+            all.poke(segment, segment % 3, 5);
         }
+        due("one of each of 250", all.check(), 250);
     }
 
-    private static void broken() {
-        promise = 14;
-        LogicalPairs x = new LogicalPairs();
-        x.kind(0);
+    // Promise 14: broken
+
+    private static LogicalPairs withBroken() {
+        LogicalPairs x = kinds(0);
         for (int each = 1; each <= 4; each++) {
             x.segment(1, 0, -each);
         }
@@ -717,45 +983,135 @@ public final class PromiseTest {
         x.poke(4, 0, 9);
         x.poke(3, 0, 1);
         x.poke(1, 1, 1);
-        int[] want = {1, 3, 3, 4, 0};
-        for (int i = 0; i < want.length; i++) {
-            due("broken(" + i + ")", x.broken(i), want[i]);
+        return x;
+    }
+
+    private static void brokenFromZero() {
+        LogicalPairs x = kinds(0);
+        for (int each = 1; each <= 3; each++) {
+            x.segment(1, 0, each);
         }
-        due("highest", x.broken(HIGH), 0);
-        due("-1", x.broken(-1), 0);
-        due("lowest", x.broken(LOW), 0);
-        x.delete(3);
-        due("without the gone one", x.broken(1), 4);
-        due("behind the last", x.broken(2), 0);
+        x.poke(2, 0, 7);
+        due("the first", x.broken(0), 2);
+        x.poke(2, 1, 7);
+        x.poke(2, 2, 7);
+        for (int i = 0; i <= 2; i++) {
+            due("each pointer for itself, " + i, x.broken(i), 2);
+        }
+        due("behind them", x.broken(3), 0);
     }
 
-    private static void told() {
-        promise = 15;
-        LogicalPairs x = withRules();
-        x.segment(1, 0, 1);
-        x.segment(3, 0, 1);
-        x.segment(3, 0, 2);
-        x.segment(4, 0, 1);
-        x.relate(2, 1);
-        x.relate(3, 1);
-        x.relate(4, 1);
-        x.index(1, false);
-        tolds("before", x, 4, 4, 4, 0, 3, 1);
-        x.delete(1);
-        tolds("one stays", x, 4, 4, 2, 1, 2, 1);
+    private static void brokenOrder() {
+        LogicalPairs x = withBroken();
+        int[] want = {1, 3, 3, 4};
+        for (int i = 0; i < want.length; i++) {
+            due("broken " + i, x.broken(i), want[i]);
+        }
+        x.delete(3);
+        due("without one that went", x.broken(1), 4);
+    }
+
+    private static void brokenNone() {
+        LogicalPairs x = withBroken();
+        for (int i : new int[] {4, 5, 750, HIGH, -1, LOW}) {
+            due("broken " + i, x.broken(i), 0);
+        }
+        for (int segment = 1; segment <= 4; segment++) {
+            x.delete(segment);
+        }
+        due("when all went", x.broken(0), 0);
+        due("of no segments", new LogicalPairs().broken(0), 0);
+    }
+
+    // Promise 15: told
+
+    private static void toldKinds() {
+        LogicalPairs x = new LogicalPairs();
+        for (int number = 1; number <= 15; number++) {
+            x.kind(0);
+            due("kinds", x.told(0), number);
+        }
+        x.kind(0);
+        x.kind(99);
+        due("not the refused ones", x.told(0), 15);
+    }
+
+    private static void toldMade() {
+        LogicalPairs x = withAllStates();
+        due("there, staying and gone", x.told(1), 4);
+        x.segment(1, 0, 3);
+        due("not a refused one", x.told(1), 4);
         x.delete(2);
-        tolds("still", x, 4, 4, 1, 1, 1, 1);
-        x.delete(3);
-        tolds("all gone", x, 4, 4, 0, 0, 0, 1);
-        due("6", x.told(6), LogicalPairs.NONE);
-        due("-1", x.told(-1), LogicalPairs.NONE);
-        due("lowest", x.told(LOW), LogicalPairs.NONE);
-        due("highest", x.told(HIGH), LogicalPairs.NONE);
+        x.delete(4);
+        due("ever made", x.told(1), 4);
+        LogicalPairs full = full();
+        full.segment(1, 0, 0);
+        due("at most 250", full.told(1), 250);
     }
 
-    private static void tolds(String when, LogicalPairs x, int... want) {
-        for (int what = 0; what < want.length; what++) {
-            due("told(" + what + "), " + when, x.told(what), want[what]);
+    private static void toldThere() {
+        LogicalPairs x = withAllStates();
+        due("two", x.told(2), 2);
+        x.segment(1, 0, 9);
+        due("three", x.told(2), 3);
+        x.delete(2);
+        x.delete(4);
+        x.delete(5);
+        due("none", x.told(2), 0);
+        due("all of 250", full().told(2), 250);
+    }
+
+    private static void toldStay() {
+        LogicalPairs x = withAllStates();
+        due("one", x.told(3), 1);
+        x.segment(3, 0, 2);
+        x.relate(5, 4);
+        due("not one that is there with a count", x.told(3), 1);
+        x.delete(4);
+        due("two", x.told(3), 2);
+        x.delete(2);
+        due("one again", x.told(3), 1);
+        x.delete(5);
+        due("none", x.told(3), 0);
+    }
+
+    private static void toldRelations() {
+        LogicalPairs x = withAllStates();
+        due("one, to one that stays", x.told(4), 1);
+        x.segment(4, 0, 2);
+        x.relate(5, 4);
+        due("two", x.told(4), 2);
+        x.relate(5, 1);
+        due("not a refused one", x.told(4), 2);
+        x.delete(4);
+        due("one goes by rule 2", x.told(4), 1);
+        x.delete(2);
+        due("none", x.told(4), 0);
+        LogicalPairs ring = kinds(0);
+        ring.parent(1, 1, 1);
+        ring.segment(1, 0, 1);
+        ring.segment(1, 0, 2);
+        ring.relate(1, 2);
+        due("of the first segment", ring.told(4), 1);
+        ring.relate(2, 1);
+        due("of two that are related to each other", ring.told(4), 2);
+    }
+
+    private static void toldIndexes() {
+        LogicalPairs x = kinds(0);
+        for (int number = 1; number <= 10; number++) {
+            x.index(1, false);
+            due("indexes", x.told(5), number);
+        }
+        x.index(1, false);
+        x.index(2, false);
+        due("not the refused ones", x.told(5), 10);
+    }
+
+    private static void toldOthers() {
+        LogicalPairs x = withAllStates();
+        for (int what : new int[] {6, 7, HIGH, -1, -2, LOW}) {
+            due("told(" + what + ")", x.told(what), NONE);
         }
     }
 }
