@@ -261,6 +261,14 @@ public final class TermsTest {
         due("the 250th is deleted", x.delete(250), 1);
         due("the 250th stays", x.there(250, 1), true);
         due("there is no 251st", x.count(251), -2);
+
+        LogicalPairs under = kinds(0, 1);
+        under.segment(1, 0, 0);
+        for (int number = 2; number <= 250; number++) {
+            under.segment(2, 1, number);
+        }
+        due("the 250th is a child", under.child(1, 0, 248), 250);
+        due("nothing is behind it", under.child(1, 0, 249), 0);
     }
 
     private static void underTheKindAbove() {
